@@ -41,7 +41,7 @@ public final class BentQuarters {
 
     public BentQuarters() {
         figures = new Figures();
-        bender = new Bender(figures);
+        bender = new Bender();
         past = new Past();
         text = new Text();
         refusals = new int[3];
@@ -124,7 +124,7 @@ public final class BentQuarters {
         if (!figures.has(t)) {
             return refuses(BAD);
         }
-        if (!bender.bends()) {
+        if (!bender.bends(figures)) {
             return refuses(NO);
         }
         return bender.row[t] + REACH;
@@ -134,7 +134,7 @@ public final class BentQuarters {
         if (!isForm(k)) {
             return refuses(BAD);
         }
-        if (!bender.bends()) {
+        if (!bender.bends(figures)) {
             return refuses(NO);
         }
         return figures.movement(bender.row, k);
@@ -144,14 +144,14 @@ public final class BentQuarters {
         if (!figures.has(t)) {
             return refuses(BAD);
         }
-        if (!figures.isPrinted(t) || !bender.bends()) {
+        if (!figures.isPrinted(t) || !bender.bends(figures)) {
             return refuses(NO);
         }
         return revision(t);
     }
 
     public int farthest() {
-        if (!bender.bends()) {
+        if (!bender.bends(figures)) {
             return refuses(NO);
         }
         int found = NONE;
@@ -167,7 +167,7 @@ public final class BentQuarters {
 
     public int least() {
         for (int limit = 0; limit <= MOST_LIMIT; limit++) {
-            if (bender.meetsWithin(limit)) {
+            if (bender.meetsWithin(figures, limit)) {
                 return limit;
             }
         }
@@ -178,14 +178,14 @@ public final class BentQuarters {
         if (!isYear(y)) {
             return refuses(BAD);
         }
-        if (figures.totals[y] == NONE || !bender.bends()) {
+        if (figures.totals[y] == NONE || !bender.bends(figures)) {
             return refuses(NO);
         }
-        return figures.movement(bender.row, figures.shape) - bender.leastWithout(y);
+        return figures.movement(bender.row, figures.shape) - bender.leastWithout(figures, y);
     }
 
     public int others() {
-        return bender.bends() ? bender.rows : 0;
+        return bender.bends(figures) ? bender.rows : 0;
     }
 
     public int shared(int t) {
@@ -292,7 +292,7 @@ public final class BentQuarters {
     }
 
     private long digestsBent(long begun) {
-        if (!bender.bends()) {
+        if (!bender.bends(figures)) {
             return 31 * begun;
         }
         long h = 31 * begun + 1;
@@ -306,7 +306,7 @@ public final class BentQuarters {
     }
 
     private int prints() {
-        if (!bender.bends()) {
+        if (!bender.bends(figures)) {
             return NO;
         }
         for (int t = 0; t < figures.quarters; t++) {
@@ -633,11 +633,13 @@ public final class BentQuarters {
         final int[] leftHigh = new int[MOST_QUARTERS];
         final boolean[] bound = new boolean[YEARS];
         final int[] gaps = new int[YEARS];
+        int quarters = 0;
 
         /** Whether some ROW MEETS with this limit (NONE: none), were the TOTAL of that year (NONE: none) not told. */
         boolean lays(Figures figures, int limit, int untoldYear) {
+            quarters = figures.quarters;
             boolean meets = true;
-            for (int t = 0; t < figures.quarters; t++) {
+            for (int t = 0; t < quarters; t++) {
                 laysQuarter(figures, limit, t);
                 meets = meets && low[t] <= high[t];
             }
@@ -660,7 +662,7 @@ public final class BentQuarters {
             }
         }
 
-        /** Each d may be any whole number from low to high, so a sum is met just if it is from their sum to theirs. */
+        /** Each d may be any of low to high, so the GAP is met just if it lies from the lows' sum to the highs' sum. */
         private boolean laysYear(int y) {
             int begin = IN_YEAR * y;
             int restLow = 0;
@@ -716,7 +718,6 @@ public final class BentQuarters {
      * in its lowest bits, AWAY.
      */
     private static final class Bender {
-        private final Figures figures;
         private final Bounds bounds = new Bounds();
         private final long[] costs = new long[YEARS * SPOTS_IN_YEAR];
         private final int[] ways = new int[YEARS * SPOTS_IN_YEAR];
@@ -730,46 +731,42 @@ public final class BentQuarters {
         final int[] row = new int[MOST_QUARTERS];
         int rows = 0;
 
-        Bender(Figures figures) {
-            this.figures = figures;
-        }
-
         void forgets() {
             known = false;
         }
 
-        boolean meetsWithin(int limit) {
+        boolean meetsWithin(Figures figures, int limit) {
             return bounds.lays(figures, limit, NONE);
         }
 
         /** Whether there is BENT; it is found once, and kept until the figures change. */
-        boolean bends() {
+        boolean bends(Figures figures) {
             if (!known) {
                 known = true;
                 there = bounds.lays(figures, figures.limit, NONE);
                 if (there) {
-                    fills();
+                    fills(figures);
                     rows = bestWays;
-                    traces();
+                    traces(figures);
                 }
             }
             return there;
         }
 
         /** MOVED of BENT were that TOTAL not told; BENT itself stays as it was found. */
-        long leastWithout(int y) {
+        long leastWithout(Figures figures, int y) {
             if (!bounds.lays(figures, figures.limit, y)) {
                 return 0;
             }
-            fills();
+            fills(figures);
             return bestCost >> AWAY_BITS;
         }
 
         /** Fills the spots, from the last QUARTER on; the best step is then that of QUARTER 0. */
-        private void fills() {
+        private void fills(Figures figures) {
             for (int t = figures.quarters - 1; t >= 0; t--) {
                 for (int d = bounds.low[t]; d <= bounds.high[t]; d++) {
-                    weighsSteps(t + 1, d);
+                    weighsSteps(figures, t + 1, d);
                     int to = bounds.mostLeft(t, d);
                     for (int left = bounds.leastLeft(t, d); left <= to; left++) {
                         choosesStep(t + 1, left);
@@ -777,7 +774,7 @@ public final class BentQuarters {
                     }
                 }
             }
-            weighsSteps(0, 0);
+            weighsSteps(figures, 0, 0);
             choosesStep(0, 0);
         }
 
@@ -789,11 +786,11 @@ public final class BentQuarters {
         }
 
         /** Only the first of the steps that are as good is taken, so BENT is the first of the ROWS that are. */
-        private void traces() {
+        private void traces(Figures figures) {
             int left = 0;
             int d = 0;
             for (int t = 0; t < figures.quarters; t++) {
-                weighsSteps(t, d);
+                weighsSteps(figures, t, d);
                 choosesStep(t, left);
                 d = bestStep;
                 left = bounds.isBound(t) ? bounds.leftAhead(t, left) - d : 0;
@@ -802,7 +799,7 @@ public final class BentQuarters {
         }
 
         /** The cost of each d of QUARTER u itself, d of the one ahead of it being aheadD. */
-        private void weighsSteps(int u, int aheadD) {
+        private void weighsSteps(Figures figures, int u, int aheadD) {
             if (u >= figures.quarters) {
                 return;
             }
@@ -822,7 +819,7 @@ public final class BentQuarters {
             bestCost = 0;
             bestWays = 1;
             bestStep = 0;
-            if (u >= figures.quarters) {
+            if (u >= bounds.quarters) {
                 return;
             }
             boolean bound = bounds.isBound(u);

@@ -8,7 +8,9 @@ import java.nio.file.Path;
 import java.util.ArrayList;
 import java.util.Arrays;
 import java.util.List;
+import java.util.Map;
 import java.util.Set;
+import java.util.TreeMap;
 import java.util.TreeSet;
 import java.util.regex.Matcher;
 import java.util.regex.Pattern;
@@ -16,6 +18,7 @@ import java.util.regex.Pattern;
 /** What can be seen, by reflection and in the source, of the rules of ../shared/LANGUAGE.md. */
 public final class LanguageTest {
     private static final Check CHECK = new Check("LanguageTest");
+    private static final int MOST_DEPTH = 8;
     private static final String SOURCE = "src/main/java/BentQuarters.java";
     private static final String[] FACE = {"back()int", "bent(int)int", "clear()int", "count(int)int", "digest()long",
         "does()int", "farthest()int", "form(int)int", "freezes(int,int)int", "indicates(int,int)int", "least()int",
@@ -71,8 +74,8 @@ public final class LanguageTest {
             if (privateAlone && !Modifier.isPrivate(m.getModifiers())) {
                 continue;
             }
-            for (String of1 : FACE) {
-                CHECK.holds("rule 1: name of " + m, !of1.startsWith(m.getName() + "("));
+            for (String call : FACE) {
+                CHECK.holds("rule 1: name of " + m, !call.startsWith(m.getName() + "("));
             }
         }
     }
@@ -110,23 +113,41 @@ public final class LanguageTest {
         }
         Matcher classes = Pattern.compile("\\bclass\\s+\\w+").matcher(code);
         CHECK.holds("rule 11: some twelve classes", classes.results().count() <= 12);
-        methodLengths(whole);
+        methodRules(code);
     }
 
     /** A method begins where a line ends with ") {" that does not begin with a word of a loop or a choice. */
-    private static void methodLengths(String whole) {
-        String[] lines = whole.split("\n");
-        Pattern head = Pattern.compile("^(\\s+)(?!if|for|while|switch|\\}|else)[A-Za-z].*\\) \\{$");
-        for (int k = 0; k < lines.length; k++) {
-            Matcher m = head.matcher(lines[k]);
-            if (!m.matches()) {
-                continue;
-            }
-            int end = k;
-            while (end < lines.length && !lines[end].equals(m.group(1) + "}")) {
-                end++;
-            }
-            CHECK.holds("rule 11: length of " + lines[k].trim(), end - k < 60);
+    private static Map<String, String> methods(String whole) {
+        Map<String, String> bodies = new TreeMap<>();
+        Pattern head = Pattern.compile("(?m)^( +)(?!if|for|while|switch|else)[A-Za-z][^=\n]*?(\\w+)\\([^=\n]*\\) \\{$");
+        Matcher m = head.matcher(whole);
+        while (m.find()) {
+            int end = whole.indexOf("\n" + m.group(1) + "}\n", m.end());
+            String had = bodies.put(m.group(2), whole.substring(m.end(), end));
+            CHECK.holds("no two methods of the name " + m.group(2), had == null);
         }
+        return bodies;
+    }
+
+    private static void methodRules(String whole) {
+        Map<String, String> bodies = methods(whole);
+        CHECK.holds("all methods are seen", bodies.size() > 60 && bodies.containsKey("digest"));
+        for (String name : bodies.keySet()) {
+            CHECK.holds("rule 11: length of " + name, bodies.get(name).split("\n").length <= 60);
+            int depth = depth(name, bodies, 1);
+            CHECK.holds("rule 11: calls of " + name + " go " + depth + " deep", depth <= MOST_DEPTH);
+        }
+    }
+
+    /** How many calls stand open at most from this one on; one that calls itself goes too deep. */
+    private static int depth(String name, Map<String, String> bodies, int open) {
+        int most = open;
+        Matcher calls = Pattern.compile("\\b(\\w+)\\(").matcher(bodies.get(name));
+        while (calls.find() && most <= MOST_DEPTH) {
+            if (bodies.containsKey(calls.group(1))) {
+                most = Math.max(most, depth(calls.group(1), bodies, open + 1));
+            }
+        }
+        return most;
     }
 }
