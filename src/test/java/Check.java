@@ -16,6 +16,14 @@ final class Check {
         }
     }
 
+    void same(String what, String want, String got) {
+        seen++;
+        if (!want.equals(got)) {
+            wrong++;
+            System.out.println(test + ": " + what + " answered '" + got + "', due is '" + want + "'");
+        }
+    }
+
     void holds(String what, boolean held) {
         due(what, 1, held ? 1 : 0);
     }
