@@ -38,6 +38,7 @@ public final class CallEdgesTest {
         frozenBits();
         refusedChangesNothing();
         theFirstOfMore();
+        refusedAheadOfNone();
         gettersLeaveNoState();
         eachLeavesAState();
         nothingOtherLeavesAState();
@@ -493,6 +494,33 @@ public final class CallEdgesTest {
         due("FULL then", FULL, x.quarter(1));
         due("FULL then", FULL, x.type(0));
         due("twice", 2, x.told(2));
+    }
+
+    /** Where a call's NONE and its refusal are both due, it is refused: what is refused answers nothing else. */
+    private static void refusedAheadOfNone() {
+        says("NONE: nothing is PUBLISHED. NO: there is no BENT.");
+        BentQuarters x = Making.like(4, 10);
+        x.total(0, 72);
+        due("nothing PUBLISHED, BENT", NONE, x.farthest());
+        due("that is no refusal", 0, refusals(x));
+        x.total(0, 73);
+        due("nothing PUBLISHED, no BENT", NO, x.farthest());
+        due("that is one", 1, x.told(1));
+        x.total(0, 40);
+        x.publishes();
+        due("PUBLISHED, BENT", 0, x.farthest());
+        x.total(0, 73);
+        due("PUBLISHED, no BENT", NO, x.farthest());
+        x.recalls();
+        due("PUBLISHED no more, no BENT", NO, x.farthest());
+        due("how often", 3, x.told(1));
+        says("NONE: no TOTAL (0, 2). BAD.");
+        due("no such YEAR, so no TOTAL", BAD, x.year(3, 0));
+        due("no TOTAL, and no such number", BAD, x.year(2, 3));
+        says("(NONE: none; that is no refusal). S. BAD; NO");
+        due("had none, and not all there", NO, x.total(1, 5));
+        due("had none, and 1000", BAD, x.total(0, 1000));
+        due("was none, and 25", BAD, x.limits(25));
     }
 
     // ---- STATES

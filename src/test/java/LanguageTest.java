@@ -113,7 +113,22 @@ public final class LanguageTest {
         }
         Matcher classes = Pattern.compile("\\bclass\\s+\\w+").matcher(code);
         CHECK.holds("rule 11: some twelve classes", classes.results().count() <= 12);
+        CHECK.holds("rule 3: arrays of one dimension", !Pattern.compile("\\[\\s*\\]\\s*\\[").matcher(code).find());
+        loopRules(code);
         methodRules(code);
+    }
+
+    /** Every loop counts, by one, against a bound that stands in its head. */
+    private static void loopRules(String code) {
+        CHECK.holds("rule 9: no loop without a counter", !Pattern.compile("\\b(while|do)\\b").matcher(code).find());
+        Pattern counted = Pattern.compile("for \\((?:int )?(\\w+) = [^;]+; \\1 (?:(?:<=?) [^;]+; \\1\\+\\+|(?:>=?) [^;]+; \\1--)\\) \\{");
+        Matcher loops = Pattern.compile("\\bfor\\b[^\n]*").matcher(code);
+        int seen = 0;
+        while (loops.find()) {
+            CHECK.holds("rule 9: " + loops.group(), counted.matcher(loops.group()).matches());
+            seen++;
+        }
+        CHECK.holds("all loops are seen", seen > 20);
     }
 
     /** A method begins where a line ends with ") {" that does not begin with a word of a loop or a choice. */

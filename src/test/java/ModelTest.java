@@ -4,6 +4,7 @@ import java.util.Random;
 public final class ModelTest {
     private static final int RUNS = 60;
     private static final int CALLS = 100;
+    private static final int MOST_CALLS = 512;
     private static final Check CHECK = new Check("ModelTest");
 
     private static final String[] CHANGES = {"quarter", "indicates", "total", "total", "total", "untold", "freezes",
@@ -15,6 +16,9 @@ public final class ModelTest {
     public static void main(String[] args) {
         for (int seed = 0; seed < RUNS && !CHECK.failed(); seed++) {
             runs(seed);
+        }
+        for (int seed = 0; seed < 20 && !CHECK.failed(); seed++) {
+            longest(seed);
         }
         for (int seed = 0; seed < 400 && !CHECK.failed(); seed++) {
             texts(seed);
@@ -93,6 +97,35 @@ public final class ModelTest {
                 both(run, x, m, name, y, Math.floorMod((int) m.call("year", y, 1) + random.nextInt(41) - 20, 1000));
             }
         }
+    }
+
+    /** As many calls as an object is used for, THE TEXT being typed between the others. */
+    private static void longest(int seed) {
+        Random random = new Random(7000 + seed);
+        BentQuarters x = new BentQuarters();
+        Model m = new Model();
+        int scale = 1 + random.nextInt(99);
+        String text = "";
+        int typed = 0;
+        for (int k = 1; k < MOST_CALLS && !CHECK.failed(); k++) {
+            String run = "longest run " + seed + ", call " + k;
+            if (random.nextInt(3) == 0) {
+                String[] names = random.nextInt(3) > 0 ? CHANGES : GETTERS;
+                String name = names[random.nextInt(names.length)];
+                both(run, x, m, name, first(random, m, name, scale), second(random, m, name, scale));
+            } else if (typed < text.length()) {
+                both(run, x, m, "type", text.charAt(typed), 0);
+                typed++;
+            } else if (typed == text.length()) {
+                both(run, x, m, "does", 0, 0);
+                typed++;
+            } else {
+                both(run, x, m, "clear", 0, 0);
+                text = orders(random, m, scale);
+                typed = 0;
+            }
+        }
+        both("longest run " + seed + ", last call", x, m, "digest", 0, 0);
     }
 
     private static int near(Random random, int scale) {
